@@ -33,7 +33,7 @@ public final class ModelTest {
         x = new MaynotBeSeen();
         model = new Model();
         if (random.nextInt(8) > 0) {
-            tell(start());
+            start();
         }
         while (calls < 400) {
             step();
@@ -90,22 +90,27 @@ public final class ModelTest {
         return kind < 4 ? random.nextInt(12) - 2 : random.nextInt(random.nextInt(6) + 1);
     }
 
-    /** A house that is mostly without fault, so that runs begin with things in it. */
-    private String start() {
+    /** Houses that are mostly without fault, so that runs begin with much in them. */
+    private void start() {
         StringBuilder text = new StringBuilder();
-        int lines = random.nextInt(6);
+        int lines = random.nextInt(11);
         for (int i = 0; i < lines; i++) {
-            int room = random.nextInt(6 - i);
-            text.append('l').append(room).append((room + i + 1) % 6).append(';');
+            int room = i % 5;
+            text.append('l').append(room).append((room + 1 + i / 5 + 3 * random.nextInt(2)) % 6).append(';');
+            if (random.nextInt(4) == 0) {
+                text.append('c').append(i).append(';');
+            }
         }
+        tell(text.toString());
+        text.setLength(0);
         int things = random.nextInt(9);
         for (int i = 0; i < things; i++) {
             text.append('t').append("ttwsbnm".charAt(random.nextInt(7))).append(random.nextInt(6)).append(';');
         }
-        for (int i = 0; i + 1 < things && text.length() < 72; i += 2) {
+        for (int i = 0; i + 1 < things; i += 2) {
             text.append('o').append(i).append(i + 1).append(';');
         }
-        return text.toString();
+        tell(text.toString());
     }
 
     private String text() {
