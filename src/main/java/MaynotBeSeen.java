@@ -243,8 +243,7 @@ public final class MaynotBeSeen {
         if (what == 0) {
             return givings.ofAll();
         }
-        int others = givings.othersOf(0);
-        return others == 0 ? NONE : Integer.numberOfTrailingZeros(others);
+        return Givings.leastOf(givings.othersOf(0));
     }
 
     public int together(int things) {
@@ -484,7 +483,7 @@ public final class MaynotBeSeen {
     }
 
     private static int draw(int seed, int below) {
-        return below > 0 ? (seed & Integer.MAX_VALUE) / 256 % below : 0;
+        return below > 0 ? (seed & 0x7FFFFFFF) / 256 % below : 0;
     }
 
     /** All that is told and the sets that are together: what is, what is in mind, an image. */
@@ -854,7 +853,7 @@ public final class MaynotBeSeen {
         void reckon() {
             within[0] = 1;
             for (int set = 1; set < 1 << thingCount; set++) {
-                int least = Integer.numberOfTrailingZeros(set);
+                int least = leastOf(set);
                 int rest = set ^ 1 << least;
                 int found = 0;
                 for (int o = least + 1; o < thingCount; o++) {
@@ -864,6 +863,16 @@ public final class MaynotBeSeen {
                 }
                 within[set] = found;
             }
+        }
+
+        /** The least of some things (bits); of none NONE. */
+        static int leastOf(int things) {
+            for (int t = 0; t < MOST_THINGS; t++) {
+                if ((things >> t & 1) != 0) {
+                    return t;
+                }
+            }
+            return NONE;
         }
 
         int ofAll() {
