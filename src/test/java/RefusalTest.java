@@ -17,7 +17,6 @@ public final class RefusalTest {
         "row(22)", "row(99)", "+" + "m00;".repeat(20)};
 
     private static final Due DUE = new Due();
-    private static int objects = 0;
 
     public static void main(String[] args) {
         inNothing();
@@ -25,7 +24,6 @@ public final class RefusalTest {
         inFull();
         faults();
         answersThatAreNone();
-        DUE.is("objects that were looked at", objects > 100 ? 1 : 0, 1);
         DUE.end();
     }
 
@@ -115,7 +113,6 @@ public final class RefusalTest {
 
     /** Whether two answer all alike, but for one refusal more of a number. */
     private static void alike(String what, MaynotBeSeen x, MaynotBeSeen twin, int number) {
-        objects++;
         for (String call : probes()) {
             int more = call.equals("count(" + (10 - number) + ")") ? 1 : 0;
             DUE.is(what + ", then " + call, Script.call(x, call), Script.call(twin, call) + more);

@@ -48,6 +48,7 @@ public final class SearchBoundsTest {
         SCRIPT.run("14: of several of two the least bits", "l01;l02;l13;l23;tt0;tt3;o01; curtains()=3");
         SCRIPT.run("14: none helps in all ten", TEN_LINES, "tt0;tt0;o01; curtains()=-9");
         SCRIPT.run("14: none helps against BRIGHT ones", "l01;tb0;tt1;o01; curtains()=-9");
+        SCRIPT.run("14: as all is by then", "l01;tt0;tt2; curtains()=0 move(1,1) curtains()=0 pair(0,1) curtains()=1");
         SCRIPT.run("14: in the HOUR: day", "l01;tt0;tn1;o01; curtains()=0");
         SCRIPT.run("14: in the HOUR: night", "h6;l01;tt0;tn1;o01; curtains()=1");
         SCRIPT.run("14: in the HOUR: noon", "ts0;tt0;o01; hour(3) curtains()=0 hour(4) curtains()=-9 hour(5) curtains()=0");
@@ -69,13 +70,19 @@ public final class SearchBoundsTest {
         SCRIPT.run("15: one, the second THING of a pair", "l01;l02;l03;l04;l05;c4;tb1;tt0;o01; moved(0)=1 moved(1)=15");
         SCRIPT.run("15: two pairs, no first", "tt0;tt0;tt0;tt0;o01;o23; moved(0)=2 moved(1)=-9");
         SCRIPT.run("15: three are more than two", "tt0;tt0;tt0;tt0;tt0;tt0;o01;o23;o45; moved(0)=-9 moved(1)=-9");
+        SCRIPT.run("15: three, the pairs crosswise", "tt0;tt0;tt0;tt0;tt0;tt0;o03;o14;o25; moved(0)=-9 moved(1)=-9");
+        SCRIPT.run("15: all eight in SINS", EIGHT_THINGS, "o01;o23;o45;o67; moved(0)=-9 moved(1)=-9");
         SCRIPT.run("15: none helps", "l01;l02;l03;l04;l05;tt0;tt0;o01; moved(0)=-9 moved(1)=-9");
+        SCRIPT.run("15: as all is by then", "tt0;tt1;tt0;tt0; pair(0,1) moved(0)=0 move(1,0) moved(0)=1 moved(1)=1",
+                "pair(2,3) moved(0)=2 moved(1)=-9 pair(0,2) moved(0)=1");
         SCRIPT.run("15: in the HOUR", "tt0;tn0;o01; hour(5) moved(0)=0 moved(1)=-9 hour(6) moved(0)=1 moved(1)=1");
         SCRIPT.run("15: in the HOUR: noon", "tt0;ts0;o01; hour(3) moved(0)=0 hour(4) moved(0)=1 hour(5) moved(0)=0");
     }
 
     private static void movedTwo() {
         SCRIPT.run("15: two, the last pair's only cure among them", ONE_CURE, "m45;m55;o45; moved(0)=2 moved(1)=-9");
+        SCRIPT.run("15: two, each to the least ROOM", "l12;l13;l14;l15;tt1;tt1;tt1;tt1;o01;o23; moved(0)=2 moved(1)=-9");
+        SCRIPT.run("15: two, each to the greatest ROOM", "l01;l02;l03;l04;tt0;tt0;tt0;tt0;o01;o23; moved(0)=2 moved(1)=-9");
         SCRIPT.run("15: both of one pair", "l12;l20;l03;l34;l05;tt0;tt0;o01; moved(0)=2 moved(1)=-9 thing(0,1)=0");
         SCRIPT.run("15: two are asked for, one is told", "tt0;tt0;tt0;tt1;o01;o23; moved(0)=1 moved(1)=1");
     }
@@ -154,6 +161,8 @@ public final class SearchBoundsTest {
                 "feast(2,0)=90 feast(2,1)=3 tt5; feast(2,0)=630 feast(2,1)=3");
         SCRIPT.run("21: in the HOUR: night", "tt0;tn1;o01; hour(5) feast(2,0)=2 hour(6) feast(2,0)=0 feast(2,1)=-9");
         SCRIPT.run("21: in the HOUR: noon", "tt0;ts1;o01; hour(3) feast(2,0)=2 hour(4) feast(2,0)=0 hour(5) feast(2,0)=2");
+        SCRIPT.run("21: as all is by then", "tt0;tt1;tt0; feast(2,0)=6 pair(0,1) feast(2,0)=0 image() on() move(1,2) feast(1,0)=0");
+        SCRIPT.run("21: without THINGS, behind one with some", "image()=0 tt0;tt0; feast(0,0)=2 on()=0 feast(0,0)=1 feast(0,1)=-9");
         SCRIPT.run("21: nothing is carried", "tt0;tw1;o01; feast(5,0)=2 thing(0,1)=0 thing(1,1)=1");
     }
 
@@ -188,6 +197,7 @@ public final class SearchBoundsTest {
         SCRIPT.run("24: a SIN ahead that the first ends", "tt0;tt0;o01; row(5) judge()=-9");
         SCRIPT.run("24: a SIN ahead that the first leaves", "tt0;tt0;tt0;o01; row(25) row(5) judge()=0");
         SCRIPT.run("24: a SIN behind the second, by both", "tt0;tt1;o01; row(2) row(12) row(0) judge()=1");
+        SCRIPT.run("24: as all is by then", "tt0;tt1;o01; row(1) judge()=0 row(1) move(1,4) judge()=-9");
         SCRIPT.run("24: nothing is moved", "tt0;tt1;o01; row(2) row(13) judge()=-9 thing(0,1)=0 thing(1,1)=1");
     }
 
@@ -231,6 +241,7 @@ public final class SearchBoundsTest {
         SCRIPT.run("25: one THING", "tt0; seeds(1,5)=0 seeds(30,5)=0 seeds(30,MIN)=0", NO_REFUSAL);
         SCRIPT.run("25: in the HOUR: night", star, "tt0;tn0;o01; hour(5) seeds(30,0)=0 hour(6) seeds(30,0)=30");
         SCRIPT.run("25: in the HOUR: noon", "tt0;ts0;tt0;o01; seeds(30,9)=0 hour(4) seeds(1,0)=1 hour(5) seeds(30,9)=0");
+        SCRIPT.run("25: as all is by then", "tt3;tt0;o01; seeds(1,0)=1 move(0,4) seeds(1,0)=0");
         SCRIPT.run("25: in mind", "tt3;tt0;o01; seeds(1,0)=1 thing(0,1)=3 thing(1,1)=0 seeds(1,0)=1 count(2)=0");
     }
 

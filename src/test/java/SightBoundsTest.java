@@ -66,6 +66,7 @@ public final class SightBoundsTest {
     private static void thingAndWrapped() {
         SCRIPT.run("t: without LINES its own ROOM alone", "tt3; from(0,0)=8");
         SCRIPT.run("t: a LINE leads both ways", "l01;tt0;tt1; from(0,0)=3 from(1,0)=3");
+        SCRIPT.run("t: LINES told from either end", "l10;l20;l03;tt0; from(0,0)=15 curtain(0)=1 from(0,0)=13");
         SCRIPT.run("t: one LINE far, not two", "l01;l12;tt0; from(0,0)=3");
         SCRIPT.run("t: not through a CURTAIN", "l01;l02;c0;tt0; from(0,0)=5 curtain(0)=0 from(0,0)=7");
         SCRIPT.run("t: all LINES with CURTAINS", "l01;l02;c0;c1;tt0; from(0,0)=1");
@@ -85,6 +86,7 @@ public final class SightBoundsTest {
     private static void bright() {
         SCRIPT.run("b: as a THING", "l01;tb0; from(0,0)=3 from(0,4)=3 from(0,7)=3");
         SCRIPT.run("b: through CURTAINS too", "l01;l02;c0;c1;tb0; from(0,0)=7 curtain(0)=0 from(0,0)=7");
+        SCRIPT.run("b: LINES told from either end", "l10;l20;l03;c0;c2;tb0; from(0,0)=15");
         SCRIPT.run("b: one LINE far, not two", "l01;l12;c0;c1;tb0; from(0,0)=3");
         SCRIPT.run("b: without LINES its own ROOM alone", "tb5; from(0,0)=32");
     }
@@ -148,6 +150,7 @@ public final class SightBoundsTest {
         SCRIPT.run("13: no OTHERS", "tt0;tt0; day()=-9");
         SCRIPT.run("13: the first of several pairs", "tt0;tn0;tt0;ts0;o01;o23; day()=4");
         SCRIPT.run("13: from HOUR 0 on, whatever HOUR it is", "h7;tt0;tt0;o01; day()=0 count(2)=7");
+        SCRIPT.run("13: as all is by then", "tt0;tt1; pair(0,1) day()=-9 move(1,0) day()=0 move(0,5) day()=-9");
         SCRIPT.run("13: the last pair of four", EIGHT_THINGS, "o67; day()=0");
     }
 
@@ -182,6 +185,7 @@ public final class SightBoundsTest {
         SCRIPT.run("22: all but the least ROOM, all but the greatest", "tt0;tt5;o01; clean(0)=31 clean(1)=62");
         SCRIPT.run("22: in any HOUR: noon", "tt0;ts0;o01; clean(0)=62 clean(1)=62");
         SCRIPT.run("22: in any HOUR: night", "tt0;tn0;o01; clean(0)=62 clean(1)=62");
+        SCRIPT.run("22: as all is by then", "tt0;tt5;tt3;o01; clean(0)=31 move(1,4)=5 clean(0)=47 pair(0,2)=1 clean(0)=55");
         SCRIPT.run("22: nothing is moved", "tt3;tt3;o01; clean(0)=55 thing(0,1)=3 thing(1,1)=3");
     }
 }

@@ -135,6 +135,7 @@ public final class ToldBoundsTest {
         SCRIPT.run("3: a LINE that there is", "l01;l01;=-2004 l01;=1 l01;=-2000 count(1)=1");
         SCRIPT.run("3: a LINE that there is, turned", "l01;l10;=-2004 l10;=1 l01;=-2000 line(0,0)=0 line(0,1)=1");
         SCRIPT.run("3: a LINE that there is, with a CURTAIN", "l01;c0;l01;=-2007");
+        SCRIPT.run("3: a LINE that there is, behind others of its ROOMS", "l01;l21;l10;=-2008 l10;l12;l01;=-2008 l01;l02;l10;=-2008");
         SCRIPT.run("3: a LINE of one ROOM that another LINE has", "l01;l02;l21;=3 count(1)=3");
         SCRIPT.run("3: 10 LINES at most", TEN_LINES + "=10 count(1)=10 l24;=-2000 count(1)=10");
         SCRIPT.run("3: an eleventh LINE in one text", TEN_LINES + "l24;=-2040 count(1)=0");
