@@ -245,7 +245,7 @@ public final class SearchBoundsTest {
         SCRIPT.run("25: in mind", "tt3;tt0;o01; seeds(1,0)=1 thing(0,1)=3 thing(1,1)=0 seeds(1,0)=1 count(2)=0");
     }
 
-    /** A DRAW of a thing and one of a room, the seeds behind them worked out by hand. */
+    /** A DRAW of a thing and one of a room, told with their seeds, which a script apart from the class worked out. */
     private static void seedsThatWrap() {
         drawn("z 0: 1013904223 and 1196435762, neither beyond an int", 0, 2, 1, 3);
         drawn("z 0 of eight", 0, 8, 3, 3);
